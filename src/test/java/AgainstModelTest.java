@@ -1,4 +1,6 @@
+import java.util.ArrayList;
 import java.util.Arrays;
+import java.util.List;
 import java.util.Random;
 
 /**
@@ -6,7 +8,7 @@ import java.util.Random;
  * every answer and every exception must be the same.
  */
 public final class AgainstModelTest {
-    private static final int RUNS = 600;
+    private static final int RUNS = 300;
     private static final int CALLS = 512;
     private static final String[] NAMES = {
         "cut", "push", "wish", "stick", "fill", "tick", "place", "speed", "told", "point",
@@ -122,6 +124,16 @@ public final class AgainstModelTest {
         }
     }
 
+    private static boolean agree(String run, HumpYard yard, YardModel model, Call q) {
+        String got = ofYard(yard, q);
+        String want = ofModel(model, q);
+        if (!got.equals(want)) {
+            wrong++;
+            System.out.println(run + ": " + q + " answered " + got + ", due is " + want);
+        }
+        return got.equals(want);
+    }
+
     private static void run(int seed) {
         Random r = new Random(seed);
         Lean lean = Lean.of(r);
@@ -129,13 +141,40 @@ public final class AgainstModelTest {
         YardModel model = new YardModel();
         for (int i = 0; i < CALLS; i++) {
             Call q = i == 0 ? new Call(1, 0, 0, 0, 1 + r.nextInt(3)) : made(r, lean);
-            String got = ofYard(yard, q);
-            String want = ofModel(model, q);
-            if (!got.equals(want)) {
-                wrong++;
-                System.out.println("seed " + seed + ", call " + i + ": " + q + " answered " + got + ", due is " + want);
+            if (!agree("seed " + seed + ", call " + i, yard, model, q)) {
                 return;
             }
+        }
+        count(model);
+    }
+
+    /** A crowd that has more events than are kept; of the events i those from first to last are asked. */
+    private static void crowd(int first, int last) {
+        HumpYard yard = new HumpYard();
+        YardModel model = new YardModel();
+        List<Call> calls = new ArrayList<>();
+        calls.add(new Call(1, 0, 0, 0, 1));
+        calls.add(new Call(2, 0, 0, 0, 1));
+        for (int track = 0; track < 8; track++) {
+            calls.add(new Call(2, 1 + track, 0, 0, 1.75));
+            calls.add(new Call(4, track, 0, 0, 800));
+        }
+        for (int point = 3; point < 7; point++) {
+            calls.add(new Call(3, point, 1, 0, 0));
+        }
+        for (int i = 0; i < 60; i++) {
+            calls.add(new Call(0, 1, 1 + i * 8 % 90, i * 4 / 3 % 4 * 2 + 1, i * 5 % 4 * 0.75));
+        }
+        for (int i = 0; i < 20; i++) {
+            calls.add(new Call(5, 400, 0, 0, 0));
+        }
+        for (int i = first; i <= last; i++) {
+            for (int what = 0; what < 4; what++) {
+                calls.add(new Call(11, i, what, 0, 0));
+            }
+        }
+        for (Call q : calls) {
+            agree("crowd", yard, model, q);
         }
         count(model);
     }
@@ -150,6 +189,13 @@ public final class AgainstModelTest {
     public static void main(String[] args) {
         for (int seed = 0; seed < RUNS; seed++) {
             run(seed);
+        }
+        crowd(0, 99);
+        crowd(100, 199);
+        crowd(200, 211);
+        if (mostEvents <= 200) {
+            wrong++;
+            System.out.println("no run has more events than are kept");
         }
         System.out.println("events met, by kind: " + Arrays.toString(eventsMet) + ", most in one run: " + mostEvents);
         for (int met : eventsMet) {
