@@ -145,6 +145,8 @@ public final class AnswersTest {
             HumpYard yard = Checks.lone(1, 2, 0, edge[1], (int) edge[2]);
             Checks.due("11: at the edge", yard.place(0), edge[0]);
             Checks.due("11: busy at " + edge[0], yard.point((int) edge[3], 2), 1);
+            dueBusy(Checks.lone(1, 2, 0, edge[1] - 0x1p-30, (int) edge[2]), 0);
+            dueBusy(Checks.lone(1, 2, 0, edge[1] + 0x1p-30, (int) edge[2]), 0);
         }
         HumpYard yard = Checks.lone(1, 0, 7, 1, 3);
         Checks.due("11: side", yard.point(2, 0), 0);

@@ -18,13 +18,15 @@ final class Checks {
         }
     }
 
-    /** The call must throw just this exception, not one below it, as the machine would. */
+    /** The call must throw just this exception, and by a throw of HumpYard's own. */
     static void dueThrow(String what, Class<? extends RuntimeException> want, Call call) {
         Object got;
         try {
             got = call.answer();
         } catch (RuntimeException e) {
-            got = e.getClass();
+            StackTraceElement[] trace = e.getStackTrace();
+            boolean own = trace.length > 0 && trace[0].getClassName().startsWith("HumpYard");
+            got = own ? e.getClass() : "by the machine or the library " + e;
         }
         due(what, got, want);
     }

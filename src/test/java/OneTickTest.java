@@ -3,6 +3,9 @@
  * The odd numbers for pushes are those with which a cut is just at the edge after the ticks told.
  */
 public final class OneTickTest {
+    /** So little more or less push that a cut is just beside the edge instead of at it. */
+    private static final double LITTLE = 0x1p-30;
+
     // Step 1 and 2.
     private static void pointsAreTurned() {
         int[] left = {0, 4, 3, 2, 1, 0};
@@ -147,43 +150,34 @@ public final class OneTickTest {
             Checks.due("in the retarder", yard.place(0) > 30 && yard.place(0) < 62, true);
             dueSteps("above the wish by " + under[i], yard, 16, steps[i], 0);
         }
-        HumpYard yard = Checks.lone(1, 16, 0, 3.599637545072118, 52);
-        Checks.due("at its beginning", yard.place(0), 30.0);
-        yard.wish(0, 0);
-        dueSteps("at its beginning it works", yard, 16, 15, 0);
-        yard = Checks.lone(1, 16, 0, 3.599637545072118, 51);
-        yard.wish(0, 0);
-        dueSteps("before its beginning it does not", yard, 16, 0, 0);
-        yard = Checks.lone(1, 2, 0, 3.915322122456108, 81);
-        Checks.due("rear at its end", yard.place(0), 62.5);
-        yard.wish(0, 0);
-        dueSteps("rear at its end: it works", yard, 2, 15, 0);
-        yard = Checks.lone(1, 2, 0, 3.915322122456108, 82);
-        yard.wish(0, 0);
-        dueSteps("rear behind its end: it does not", yard, 2, 0, 0);
+        dueAtEdge("retarder 0 begins", 30, 16, 0, 3.599637545072118, 52, 0, true);
+        dueAtEdge("retarder 0 ends", 62.5, 2, 0, 3.915322122456108, 81, 0, false);
+    }
+
+    private static void dueAtEdge(String what, double edge, double resistance, int track, double push,
+            int rolled, int retarder, boolean begins) {
+        int first = retarder == 0 ? 15 : 0;
+        HumpYard yard = Checks.lone(1, resistance, track, push, rolled);
+        Checks.due(what, yard.place(0), edge);
+        yard.wish(retarder, 0);
+        dueSteps(what + ": at the edge it works", yard, resistance, first, 15 - first);
+        yard = Checks.lone(1, resistance, track, push + (begins ? LITTLE : -LITTLE), rolled);
+        yard.wish(retarder, 0);
+        dueSteps(what + ": within it works", yard, resistance, first, 15 - first);
+        yard = Checks.lone(1, resistance, track, push + (begins ? -LITTLE : LITTLE), rolled);
+        yard.wish(retarder, 0);
+        dueSteps(what + ": beside it does not", yard, resistance, 0, 0);
     }
 
     private static void retardersOfTracks() {
         for (int track = 0; track < 8; track++) {
+            dueAtEdge("retarder begins", 210, 2, track, 3.8516336721989513, 211, 1 + track, true);
+            dueAtEdge("retarder ends", 242.5, 2, track, 3.898871037607921, 237, 1 + track, false);
             HumpYard yard = Checks.lone(1, 2, track, 3.8516336721989513, 211);
-            Checks.due("at its beginning", yard.place(0), 210.0);
-            yard.wish(1 + track, 0);
-            dueSteps("at its beginning it works", yard, 2, 0, 15);
-            yard = Checks.lone(1, 2, track, 3.8516336721989513, 211);
             for (int retarder = 0; retarder < 9; retarder++) {
                 yard.wish(retarder, retarder == 1 + track ? 20 : 0);
             }
-            dueSteps("those of other tracks do not", yard, 2, 0, 0);
-            yard = Checks.lone(1, 2, track, 3.8516336721989513, 210);
-            yard.wish(1 + track, 0);
-            dueSteps("before its beginning it does not", yard, 2, 0, 0);
-            yard = Checks.lone(1, 2, track, 3.898871037607921, 237);
-            Checks.due("rear at its end", yard.place(0), 242.5);
-            yard.wish(1 + track, 0);
-            dueSteps("rear at its end: it works", yard, 2, 0, 15);
-            yard = Checks.lone(1, 2, track, 3.898871037607921, 238);
-            yard.wish(1 + track, 0);
-            dueSteps("rear behind its end: it does not", yard, 2, 0, 0);
+            dueSteps("those of other tracks do not work", yard, 2, 0, 0);
         }
     }
 
@@ -283,6 +277,14 @@ public final class OneTickTest {
         yard.fill(3, place - 200 + 0x1p-30);
         yard.tick(1);
         Checks.due("a little before it does not", yard.told(0, 0), 1);
+
+        yard = Checks.lone(2, 2, 3, 3, 0);
+        yard.fill(3, 25.5);
+        yard.tick(400);
+        Checks.due("what is left", yard.fill(3, 24.5), 0.5);
+        yard.cut(2, 10, 2, 3);
+        yard.tick(400);
+        Checks.due("it is too long, so nothing is left", yard.fill(3, 1), 0.0);
 
         yard = Checks.lone(1, 2, 3, 3.969029562271627, 200);
         yard.fill(3, 0);
