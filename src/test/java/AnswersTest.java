@@ -39,6 +39,12 @@ public final class AnswersTest {
         Checks.due("speed", yard.speed(2), 0.0);
         Checks.due("the one that rolls has a place", yard.place(1) > 0, true);
         Checks.due("the one that rolls has a speed", yard.speed(1) > 0, true);
+        Checks.due("with this push the next will roll", yard.push(4), 2.0);
+        yard.cut(1, 10, 0, 4);
+        yard.tick(1);
+        Checks.due("one more waits", yard.about(1), 2);
+        Checks.due("place of one that came while cuts are pushed", yard.place(3), 0.0);
+        Checks.due("speed of one that came while cuts are pushed", yard.speed(3), 0.0);
     }
 
     private static void placeAndSpeedAtTheEnd() {
@@ -480,6 +486,7 @@ public final class AnswersTest {
         Checks.sentence(8, "(where it was caught, landed, stands)", AnswersTest::placeWhereItWasCaught);
         Checks.sentence(8, "there is no such cut", AnswersTest::noSuchCut);
         Checks.sentence(9, "A cut's speed, likewise.", AnswersTest::placeAndSpeedAtTheEnd);
+        Checks.sentence(9, "likewise", AnswersTest::placeAndSpeedWhileItWaits);
         Checks.sentence(9, "there is no such cut", AnswersTest::noSuchCut);
         Checks.sentence(10, "0 its state (0 waits, 1 rolls, 2 landed, 3 stands)", AnswersTest::state);
         Checks.sentence(10, "1 the track that it came to (NONE before all points are passed)",
@@ -495,7 +502,8 @@ public final class AnswersTest {
     }
 
     private static void promises13To15() {
-        Checks.sentence(13, "Of the event i before the latest (0 the latest)", AnswersTest::eventsFromTheLatest);
+        Checks.sentence(13, "Of the event i before the latest (0 the latest): 0 what it is, 1 and 2 its numbers",
+                AnswersTest::eventsFromTheLatest);
         Checks.sentence(13, "3 its tick (the first one is 1)", AnswersTest::ticksAreCountedFrom1);
         Checks.sentence(13, "it is not kept, or there is none", AnswersTest::noSuchEvent);
         Checks.sentence(13, "there is no such thing", AnswersTest::eventNoSuchThing);

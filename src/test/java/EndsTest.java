@@ -38,7 +38,8 @@ public final class EndsTest {
                 Checks.due("events", yard.about(5), lands ? 1 : 0);
                 double more = free + 50 > 800 ? 800 : free + 50;
                 HumpYard rolls = withFree(edge, which, more, edge.rolled - 1);
-                double speed = rolls.speed(0) + 9.8125 * (Checks.grade(rolls.place(0)) - edge.resistance / 1024) * 0.125;
+                double acceleration = 9.8125 * (Checks.grade(rolls.place(0)) - edge.resistance / 1024);
+                double speed = rolls.speed(0) + acceleration * 0.125;
                 Checks.due("with its speed", yard.speed(0), speed);
                 Checks.due("fastest", yard.fastest(), lands ? speed : 0.0);
             }
@@ -354,7 +355,7 @@ public final class EndsTest {
         Checks.sentence(7, "its rear is at least 200, it STANDS: free becomes rear - 200", EndsTest::standsFrom200);
         Checks.sentence(7, "if its speed is 0", EndsTest::standsWhenAtRest);
         Checks.sentence(7, "it LANDS with its speed; otherwise, if its speed is 0", EndsTest::landingComesFirst);
-        Checks.sentence(7, "(its LENGTH is 12.5 times that)", EndsTest::lengthOfTheCut);
+        Checks.sentence(7, "A CUT has 1 to 20 WAGONS (its LENGTH is 12.5 times that)", EndsTest::lengthOfTheCut);
         Checks.sentence(7, "Who lands takes its length off free (at least 0 is left)", EndsTest::atLeast0IsLeft);
         Checks.sentence(7, "Both roll no more", EndsTest::bothRollNoMore);
         Checks.sentence(7, "5. Cuts that roll, by their numbers", EndsTest::endsByTheirNumbers);

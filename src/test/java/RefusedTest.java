@@ -8,7 +8,8 @@ public final class RefusedTest {
     private static final Class<? extends RuntimeException> ARGUMENT = IllegalArgumentException.class;
     private static final Class<? extends RuntimeException> UNSUPPORTED = UnsupportedOperationException.class;
 
-    private record Refused(int promise, String name, Class<? extends RuntimeException> by, Function<HumpYard, Object> call) {
+    private record Refused(int promise, String name, Class<? extends RuntimeException> by,
+            Function<HumpYard, Object> call) {
     }
 
     private static List<Refused> orders() {
@@ -59,6 +60,17 @@ public final class RefusedTest {
         }
         for (int wrong : new int[] {-1, 200, Integer.MAX_VALUE, Integer.MIN_VALUE}) {
             all.add(new Refused(13, "event, i", INDEX, y -> y.event(wrong, 0)));
+        }
+        return all;
+    }
+
+    private static List<Refused> notNumbers() {
+        List<Refused> all = new ArrayList<>();
+        for (double x : new double[] {Double.NaN, Double.POSITIVE_INFINITY, Double.NEGATIVE_INFINITY}) {
+            all.add(new Refused(2, "cut, " + x, ARGUMENT, y -> y.cut(1, 1, x, 0)));
+            all.add(new Refused(3, "push, " + x, ARGUMENT, y -> y.push(x)));
+            all.add(new Refused(4, "wish, " + x, ARGUMENT, y -> y.wish(0, x)));
+            all.add(new Refused(6, "fill, " + x, ARGUMENT, y -> y.fill(0, x)));
         }
         return all;
     }
@@ -229,6 +241,10 @@ public final class RefusedTest {
         for (int promise = 2; promise <= 14; promise++) {
             int p = promise;
             Checks.sentence(p, nothing, () -> nothingChanges(p));
+        }
+        for (int promise : new int[] {2, 3, 4, 6}) {
+            Checks.sentence(promise, "a number is not as the call says",
+                    () -> dueSame(lively(), lively(), 5, of(promise, notNumbers())));
         }
         Checks.sentence(2, first, RefusedTest::firstOfFull);
         for (int promise : new int[] {4, 6, 10, 11, 13}) {

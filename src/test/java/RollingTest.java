@@ -52,6 +52,19 @@ public final class RollingTest {
         }
     }
 
+    // With the least push the speed is nothing but the acceleration, and its last bits tell what was reckoned first.
+    private static void bracketsFirst() {
+        int told = 0;
+        for (int tenths = 0; tenths <= 160; tenths++) {
+            double resistance = tenths * 0.1;
+            HumpYard yard = Checks.lone(2, resistance, 5, Double.MIN_VALUE, 0);
+            double reckoned = dueTick("resistance " + resistance, yard, resistance);
+            double spread = 9.8125 * 0.046875 - 9.8125 * resistance / 1024;
+            told += reckoned == Double.MIN_VALUE + spread * 0.125 ? 0 : 1;
+        }
+        Checks.due("it could be told", told > 0, true);
+    }
+
     // ---- retarders
 
     private static int[] steps(int retarder, int steps) {
@@ -422,9 +435,10 @@ public final class RollingTest {
     private static void step3() {
         Checks.sentence(7, "The GRADE is 0.046875 below place 60", RollingTest::gradeAt60);
         Checks.sentence(7, "0.0125 below 200, and 0.001 behind", RollingTest::gradeAt200);
-        Checks.sentence(7, "all reckoned as written, from the left", RollingTest::asWritten);
-        Checks.sentence(7, "its acceleration is 9.8125 (grade - resistance / 1024), grade at its place",
+        Checks.sentence(7, "all reckoned as written, from the left, operations of one rank in their order",
                 RollingTest::asWritten);
+        Checks.sentence(7, "its acceleration is 9.8125 (grade - resistance / 1024), grade at its place",
+                RollingTest::bracketsFirst);
         Checks.sentence(7, "RETARDER 0 lies from 30 to 50, retarder 1 + t on track t from 210 to 230",
                 RollingTest::retarderBegins);
         Checks.sentence(7, "A RETARDER works on a cut if place is at least its beginning",
@@ -438,6 +452,7 @@ public final class RollingTest {
                 + " other)", RollingTest::twoOneAfterTheOther);
         Checks.sentence(7, "Its speed becomes speed + acceleration 0.125, 0 if that is below 0",
                 RollingTest::neverBelow0);
+        Checks.sentence(7, "its place becomes place + speed 0.125 (with the new speed)", RollingTest::asWritten);
         Checks.sentence(7, "At each point on its way that it has not passed, with place before it below and now not"
                 + " below the point's, it goes to the side to which that lies", RollingTest::notPassedTwice);
     }
