@@ -330,6 +330,52 @@ public final class OrdersTest {
         Checks.due("only the events of these ticks", once.tick(400), 0);
     }
 
+    // ---- the other zero of the doubles, -0.0, is 0 too
+
+    private static void due0(String what, double got) {
+        Checks.due(what + " is 0", got == 0, true);
+    }
+
+    private static void cutOfMinus0() {
+        HumpYard yard = Checks.lone(1, -0.0, 0, 1, 20);
+        HumpYard other = Checks.lone(1, 0, 0, 1, 20);
+        Checks.due("place without resistance", yard.place(0), other.place(0));
+        Checks.due("speed without resistance", yard.speed(0), other.speed(0));
+    }
+
+    private static void pushOfMinus0() {
+        HumpYard yard = new HumpYard();
+        yard.cut(1, 1, 0, 0);
+        yard.push(-0.0);
+        yard.tick(10);
+        Checks.due("none rolls", yard.about(2), 0);
+        due0("the push before", yard.push(1));
+    }
+
+    private static void wishOfMinus0() {
+        HumpYard[] yards = new HumpYard[2];
+        for (int i = 0; i < 2; i++) {
+            yards[i] = Checks.lone(1, 16, 0, 1, 0);
+            yards[i].wish(0, i == 0 ? 0 : -0.0);
+            yards[i].tick(150);
+            Checks.due("it is braked", yards[i].place(0) > 30 && yards[i].speed(0) < 1, true);
+            due0("the wish before", yards[i].wish(0, 1));
+        }
+        Checks.due("place", yards[1].place(0), yards[0].place(0));
+        Checks.due("speed", yards[1].speed(0), yards[0].speed(0));
+    }
+
+    private static void fillOfMinus0() {
+        Edge edge = Edge.at(200, 1, 3);
+        for (int which : Edge.ALL) {
+            HumpYard yard = edge.tickBefore(which);
+            yard.fill(3, -0.0);
+            yard.tick(1);
+            Checks.due(edge.name(which), yard.told(0, 0), which == Edge.BELOW ? 1 : 2);
+            due0("what is left", yard.fill(3, 1));
+        }
+    }
+
     // ---- what the document says of all calls
 
     private static void all512Calls() {
@@ -357,6 +403,7 @@ public final class OrdersTest {
         Checks.sentence(2, "wagons are not 1 .. 20", OrdersTest::cutWagons);
         Checks.sentence(2, "tons not 1 .. 90", OrdersTest::cutTons);
         Checks.sentence(2, "resistance not 0 .. 16", OrdersTest::cutResistance);
+        Checks.sentence(2, "resistance not 0 .. 16", OrdersTest::cutOfMinus0);
         Checks.sentence(2, "track not 0 .. 7", OrdersTest::cutTrack);
         Checks.sentence(2, "UnsupportedOperationException: there are 60.", OrdersTest::cutFull);
         Checks.sentence(2, "at most 60 in all", OrdersTest::cutFull);
@@ -365,14 +412,17 @@ public final class OrdersTest {
     private static void promises3To7() {
         Checks.sentence(3, "The speed at which cuts are pushed: the one before.", OrdersTest::pushBefore);
         Checks.sentence(3, "it is not 0 .. 4", OrdersTest::pushRange);
+        Checks.sentence(3, "it is not 0 .. 4", OrdersTest::pushOfMinus0);
         Checks.sentence(4, "A retarder's wish: the one before.", OrdersTest::wishBefore);
         Checks.sentence(4, "there is no such cut, point, track, retarder", OrdersTest::wishRetarders);
         Checks.sentence(4, "it is not 0 .. 20", OrdersTest::wishRange);
+        Checks.sentence(4, "it is not 0 .. 20", OrdersTest::wishOfMinus0);
         Checks.sentence(5, "A point is stuck, or not: whether it was.", OrdersTest::stickBefore);
         Checks.sentence(5, "there is no such cut, point", OrdersTest::stickPoints);
         Checks.sentence(6, "A track's free metres, measured anew: what they were.", OrdersTest::fillBefore);
         Checks.sentence(6, "there is no such cut, point, track", OrdersTest::fillTracks);
         Checks.sentence(6, "they are not 0 .. 800", OrdersTest::fillRange);
+        Checks.sentence(6, "they are not 0 .. 800", OrdersTest::fillOfMinus0);
         Checks.sentence(7, "n is not 1 .. 400", OrdersTest::tickRange);
         Checks.sentence(7, "So many ticks: how many events there were.", OrdersTest::tickEvents);
         Checks.sentence(7, "An object is used for at most 512 calls after it has been made", OrdersTest::all512Calls);

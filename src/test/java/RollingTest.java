@@ -432,6 +432,52 @@ public final class RollingTest {
         Checks.due("not caught", standing.told(1, 3), HumpYard.NONE);
     }
 
+    // The first has passed point 0 and rests with its rear before it, the second went to the other side. The third
+    // has come beyond the first one's rear, but not to the point: only while the second rolls is that its one ahead.
+    private static HumpYard threeAtPoint0() {
+        HumpYard yard = Checks.unbraked();
+        yard.cut(1, 90, 16, 7);
+        yard.cut(1, 1, 0, 7);
+        yard.cut(1, 1, 16, 7);
+        yard.wish(0, 1.41);
+        Checks.pushOne(yard, 1);
+        yard.tick(4);
+        yard.stick(0, true);
+        Checks.roll(yard, 601);
+        yard.stick(0, false);
+        yard.wish(0, 20);
+        yard.wish(8, 0.5);
+        Checks.pushOne(yard, 4);
+        yard.tick(96);
+        yard.wish(0, 1.2);
+        yard.tick(50);
+        Checks.pushOne(yard, 1);
+        Checks.roll(yard, 452);
+        double rear = yard.place(0) - 12.5;
+        Checks.due("the first rests over the point", yard.speed(0) == 0 && yard.told(0, 2) == 1 && rear < 80, true);
+        Checks.due("all roll", yard.about(2), 3);
+        Checks.due("the second is on its track", yard.told(1, 1), 7);
+        Checks.due("the third is beyond the rear", yard.place(2) > rear && yard.told(2, 2) == 0, true);
+        return yard;
+    }
+
+    private static void aheadWhenTheNearerOneLands() {
+        HumpYard rolls = threeAtPoint0();
+        rolls.tick(2);
+        Checks.due("while the second rolls", rolls.told(2, 3), HumpYard.NONE);
+        HumpYard yard = threeAtPoint0();
+        double rear = yard.place(0) - 12.5;
+        yard.fill(7, 0);
+        yard.tick(1);
+        Checks.due("the second lands behind step 4", yard.told(1, 0), 2);
+        Checks.due("so the third is not yet caught", yard.told(2, 3), HumpYard.NONE);
+        double before = yard.place(2);
+        yard.tick(1);
+        Checks.due("then it is, by the first", yard.told(2, 3), 0);
+        Checks.due("and set back to a rear", yard.place(2), rear);
+        Checks.due("that is behind where it was", yard.place(2) < before, true);
+    }
+
     private static void step3() {
         Checks.sentence(7, "The GRADE is 0.046875 below place 60", RollingTest::gradeAt60);
         Checks.sentence(7, "0.0125 below 200, and 0.001 behind", RollingTest::gradeAt200);
@@ -462,6 +508,8 @@ public final class RollingTest {
         Checks.sentence(7, "that went to the same sides as it at all points that both have passed",
                 RollingTest::onlyOnTheSameWay);
         Checks.sentence(7, "the one with the greatest number that went to the same sides", RollingTest::caughtByTwo);
+        Checks.sentence(7, "each with the one AHEAD of it: of those that roll with lesser numbers, the one with the"
+                + " greatest number", RollingTest::aheadWhenTheNearerOneLands);
         Checks.sentence(7, "If its place is not below that one's rear, it is CAUGHT: its place becomes that rear",
                 RollingTest::notBelowTheRear);
         Checks.sentence(7, "both speeds become (mass speed + mass speed) / (mass + mass), its own first",
