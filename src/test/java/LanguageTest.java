@@ -1,4 +1,6 @@
 import java.io.IOException;
+import java.io.PrintWriter;
+import java.io.StringWriter;
 import java.lang.reflect.Executable;
 import java.lang.reflect.Field;
 import java.lang.reflect.Modifier;
@@ -10,14 +12,18 @@ import java.util.Set;
 import java.util.TreeSet;
 import java.util.regex.Matcher;
 import java.util.regex.Pattern;
+import java.util.spi.ToolProvider;
 
-/** The rules of LANGUAGE.md that can be seen from the words of the source, or be counted. */
+/** The rules of LANGUAGE.md that show in the words of the source or in the compiled class, or can be counted. */
 public final class LanguageTest {
     private static final Path SOURCE = Path.of("src/main/java/HumpYard.java");
     private static final Set<String> IMPORTS = Set.of("java.util.ArrayList", "java.util.Arrays", "java.util.List");
-    private static final Set<String> LIBRARY = Set.of("Math.min", "Math.max", "Math.abs", "Math.floorMod",
-            "Math.floorDiv", "Arrays.fill", "Arrays.copyOf", "Arrays.copyOfRange", "System.arraycopy");
-    private static final Set<String> ON_LISTS = Set.of("add", "get", "set", "remove", "size", "isEmpty", "clear");
+    /** Methods as javap writes them, with what they take; on doubles there is none. */
+    private static final Pattern LIBRARY = Pattern.compile("java/(lang/Object\\.\"<init>\":\\(\\)V"
+            + "|lang/Math\\.(min|max|abs|floorMod|floorDiv):\\([IJ]+\\)[IJ]"
+            + "|lang/System\\.arraycopy:.*|util/Arrays\\.(fill|copyOf|copyOfRange):\\(\\[[IJSBCZDF].*"
+            + "|util/ArrayList\\.(\"<init>\"|add|get|set|size|isEmpty|clear):.*|util/ArrayList\\.remove:\\(I\\).*"
+            + "|(lang|util)/\\w+Exception\\.\"<init>\":\\((Ljava/lang/String;)?\\)V)");
     private static final Set<String> EXCEPTIONS = Set.of("IllegalStateException", "IllegalArgumentException",
             "IndexOutOfBoundsException", "ArithmeticException", "UnsupportedOperationException",
             "NoSuchElementException", "RuntimeException");
@@ -48,9 +54,6 @@ public final class LanguageTest {
 
     private static void words(String code) {
         dueWithin("rule 4, imports", found("import\\s+([^;]+);", code), IMPORTS);
-        dueWithin("rule 4, library", found("\\b((?:Math|Arrays|System|Integer|Long|Double|Float)\\.\\w+)", code
-                .replaceAll("import[^;]*;", "")), LIBRARY);
-        dueWithin("rule 4, lists", found("\\b(?:cuts|rolling)\\.(\\w+)\\(", code), ON_LISTS);
         Set<String> none = Set.of();
         dueWithin("no package line", found("\\b(package)\\b", code), none);
         dueWithin("rule 2, no lambda or method reference", found("(->|::)", code), none);
@@ -66,6 +69,19 @@ public final class LanguageTest {
         List<Class<?>> all = new ArrayList<>(List.of(HumpYard.class.getDeclaredClasses()));
         all.add(HumpYard.class);
         return all;
+    }
+
+    /** Whatever of the library the compiled class calls, be it written or made by the compiler. */
+    private static void dueOfLibrary(Class<?> each) {
+        StringWriter text = new StringWriter();
+        int failed = ToolProvider.findFirst("javap").orElseThrow().run(new PrintWriter(text), new PrintWriter(text),
+                "-c", "-p", "-cp", System.getProperty("java.class.path"), each.getName());
+        Checks.due("javap of " + each, failed, 0);
+        Set<String> called = found("(?m)// (?:Interface)?Method (java\\S+)$", text.toString());
+        Checks.due("it calls a constructor at least", called.isEmpty(), false);
+        called.removeIf(call -> LIBRARY.matcher(call).matches());
+        Checks.due("rule 4, what " + each + " calls of the library", called, Set.of());
+        Checks.due("no call made at run time", text.toString().contains("InvokeDynamic"), false);
     }
 
     private static void dueSmall(Class<?> each) {
@@ -106,6 +122,7 @@ public final class LanguageTest {
         Checks.due("rule 11, methods of at most 60 lines", longestMethod(code) <= 60, true);
         Checks.due("rule 11, at most 12 classes", classes().size() <= 12, true);
         for (Class<?> each : classes()) {
+            dueOfLibrary(each);
             dueSmall(each);
         }
         Checks.end();
